@@ -325,21 +325,12 @@ public final class CometKin {
         if (told.people >= MOST_PEOPLE) {
             return FULL;
         }
-        draft.copyFrom(told);
-        int child = draft.addOne(PLAIN, now.year);
-        draft.setParents(child, mother, father);
-        int best = NONE;
-        int most = NONE;
-        int bothBorn = Math.max(told.born.get(mother), told.born.get(father));
-        for (int birth = Math.max(now.year, bothBorn); birth <= year; birth++) {
-            draft.born.set(child, birth);
-            int kin = Integer.bitCount(draft.kinOf(child, year) & now.living);
-            if (kin > most) {
-                most = kin;
-                best = birth;
-            }
+        // an earlier birth counts whenever a later one does: no year can be better than the first
+        int birth = Math.max(now.year, Math.max(told.born.get(mother), told.born.get(father)));
+        if (birth > year) {
+            return NONE;
         }
-        return what == 0 ? best : most;
+        return what == 0 ? birth : livingKinOfChild(mother, father, birth, year);
     }
 
     public int weddings(int what) {
@@ -565,6 +556,14 @@ public final class CometKin {
             && now.gold.get(debtor) >= now.owed.get(debt);
     }
 
+    /** To how many who live now one more, born in a year, would be kin in another. */
+    private int livingKinOfChild(int mother, int father, int birth, int year) {
+        draft.copyFrom(told);
+        int child = draft.addOne(PLAIN, birth);
+        draft.setParents(child, mother, father);
+        return Integer.bitCount(draft.kinOf(child, year) & now.living);
+    }
+
     private void findMatches() {
         matches.fill(0);
         for (int one = 0; one < told.people; one++) {
@@ -594,7 +593,7 @@ public final class CometKin {
         if (limit == 0 || depth > MOST_PEOPLE) {
             return 0;
         }
-        int one = Integer.numberOfTrailingZeros(free);
+        int one = leastOf(free);
         int others = free & ~bit(one);
         for (int other = one + 1; other < MOST_PEOPLE && most < limit; other++) {
             if (has(matches.get(one) & others, other)) {
@@ -602,6 +601,15 @@ public final class CometKin {
             }
         }
         return most < limit ? Math.max(most, mostPairs(matches, others, depth + 1)) : most;
+    }
+
+    private static int leastOf(int people) {
+        for (int one = 0; one < MOST_PEOPLE; one++) {
+            if (has(people, one)) {
+                return one;
+            }
+        }
+        return NONE;
     }
 
     private void weighFeasts() {

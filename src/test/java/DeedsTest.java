@@ -236,6 +236,9 @@ public final class DeedsTest {
         C.due("pay(0)", x.pay(0), 0);
         C.due("gold", x.one(1, 4), 119);
         C.due("gold of all", x.count(6), 119);
+        C.land(x, "law 1", 1);
+        x.owe(0, 1, 5);
+        C.due("behind a text nothing is paid", x.debt(0, 5), 0);
     }
 
     private static void payRefused() {
@@ -349,11 +352,26 @@ public final class DeedsTest {
         x.undo();
         C.due("back(1)", x.back(1), 10);
         C.due("back(0)", x.back(0), 3);
+        keepAndBackOfDebts(x);
         C.due("land", x.land(), 1);
         C.due("back(0)", x.back(0), CometKin.NOT);
         C.due("back(1)", x.back(1), CometKin.NOT);
         C.due("keep(1)", x.keep(1), 0);
         C.due("back(1)", x.back(1), 0);
         C.due("back(0)", x.back(0), CometKin.NOT);
+    }
+
+    private static void keepAndBackOfDebts(CometKin x) {
+        x.back(1);
+        C.due("a second debt", x.owe(1, 0, 5), 1);
+        x.keep(0);
+        x.back(1);
+        x.go(3);
+        C.due("another second debt", x.owe(0, 1, 6), 1);
+        x.back(0);
+        int[] want = {1, 0, 5, 10, -1, 0};
+        for (int what = 0; what < want.length; what++) {
+            C.due("debt(1, " + what + ") as it was kept", x.debt(1, what), want[what]);
+        }
     }
 }

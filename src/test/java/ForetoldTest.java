@@ -90,6 +90,13 @@ public final class ForetoldTest {
         // he himself does not count, and is no seer, whatever his parents are
         x = C.landed("seer 0;seer 0;cloud 5");
         C.due("two seers and a cloud", x.bestBorn(0, 1, 9, 1), 0);
+        // each of two strangers is a parent; not born with one of them, he misses the first comet
+        x = C.landed("child 0;child 4;comet 3;child 0");
+        C.due("the first comet went by", x.bestBorn(0, 1, 50, 0), 4);
+        C.due("the first comet went by", x.bestBorn(0, 1, 50, 1), 0);
+        C.land(x, "comet 5", 1);
+        C.due("two strangers", x.bestBorn(0, 1, 50, 1), 2);
+        C.due("two strangers", x.bestBorn(1, 0, 4, 1), 0);
     }
 
     private static void bestBornRefused() {
@@ -151,10 +158,14 @@ public final class ForetoldTest {
         C.due("one with 3", x.weddings(0), 1);
         C.due("the first pair", x.weddings(1), 2);
         C.land(x, "law 1", 1);
-        // near are 0-1, 0-2, 1-3, 0-4: 0-3 leaves 1-2 or 1-4 or 2-4
+        // near are 0-1, 0-2, 1-3, 0-4: 0-3 leaves 1-2, 1-4 or 2-4
         C.due("two", x.weddings(0), 2);
         C.due("the first pair", x.weddings(1), 0);
         C.due("the first pair", x.weddings(2), 3);
+        x = C.landed("child 0;child 0;to 1 0;child 0;child 0;to 3 2;comet 0");
+        C.due("two of two lines", x.weddings(0), 2);
+        C.due("the first pair", x.weddings(1), 0);
+        C.due("1 is left for 3", x.weddings(2), 2);
     }
 
     private static void makes() {
@@ -254,6 +265,8 @@ public final class ForetoldTest {
         C.due("0 is true", x.truths(0), 3);
         C.due("0 is of one kind", x.truths(1), 5);
         C.due("nothing changes", x.comet(0, 0), 0);
+        x.makes(0);
+        C.due("behind what else was foretold", x.truths(0), 3);
     }
 
     private static void truth() {

@@ -1,7 +1,7 @@
 /** Long runs of calls, the same each time, on CometKin and on the plain Model: all answers must be alike. */
 public final class ModelTest {
     private static final Checks C = new Checks("ModelTest");
-    private static final String[] COMETS = {"comet", "comet", "cloud", "spark", "eclipse"};
+    private static final String[] COMETS = {"comet", "comet", "comet", "cloud", "spark", "eclipse"};
     private static final String[] ONES = {"child", "seer", "widow"};
     private static final String[] ODD = {"", ";", " ", "comet", "of", "0", "7", "100", "x", "A", "child 5", "to 1 0"};
 
@@ -13,7 +13,7 @@ public final class ModelTest {
     private int comets;
 
     public static void main(String[] args) {
-        int runs = args.length > 0 ? Integer.parseInt(args[0]) : 400;
+        int runs = args.length > 0 ? Integer.parseInt(args[0]) : 600;
         for (int run = 1; run <= runs; run++) {
             new ModelTest().run(run);
         }
@@ -31,15 +31,25 @@ public final class ModelTest {
     }
 
     private int someone() {
-        return rarely() ? upTo(12) - 2 : upTo(Math.max(people - 1, 0));
+        return rarely() ? beside(8) : upTo(Math.max(people - 1, 0));
     }
 
     private int someComet() {
-        return rarely() ? upTo(9) - 2 : upTo(Math.max(comets - 1, 0));
+        return rarely() ? beside(5) : upTo(Math.max(comets - 1, 0));
     }
 
     private int within(int most) {
-        return rarely() ? (upTo(1) == 0 ? -1 - upTo(1) : most + 1 + upTo(1)) : upTo(most);
+        return rarely() ? beside(most) : upTo(most);
+    }
+
+    /** A number that is just, or far, below 0 or above most. */
+    private int beside(int most) {
+        return switch (upTo(5)) {
+            case 0 -> Integer.MIN_VALUE + upTo(1);
+            case 1 -> Integer.MAX_VALUE - upTo(1);
+            case 2, 3 -> -1 - upTo(1);
+            default -> most + 1 + upTo(1);
+        };
     }
 
     private void run(int run) {
@@ -69,7 +79,11 @@ public final class ModelTest {
     }
 
     private int birth() {
-        return upTo(2) == 0 ? upTo(99) : upTo(20);
+        return upTo(3) == 0 ? upTo(60) : upTo(12);
+    }
+
+    private int cometYear() {
+        return upTo(5) == 0 ? upTo(99) : upTo(40);
     }
 
     private String ones() {
@@ -97,7 +111,7 @@ public final class ModelTest {
     private String lights() {
         StringBuilder text = new StringBuilder("dark");
         for (int comet = upTo(6) + (rarely() ? 1 : 0); comet > 0; comet--) {
-            text.append(";").append(COMETS[upTo(4)]).append(" ").append(birth());
+            text.append(";").append(COMETS[upTo(COMETS.length - 1)]).append(" ").append(cometYear());
         }
         return text.toString();
     }
@@ -122,7 +136,7 @@ public final class ModelTest {
     private void someCall() {
         int which = upTo(9);
         if (which < 3) {
-            someDeed(upTo(13));
+            someDeed(upTo(upTo(3) == 0 ? 13 : 11));
         } else if (which < 7) {
             somethingForetold(upTo(10));
         } else {
@@ -160,22 +174,22 @@ public final class ModelTest {
     private void someDeed(int which) {
         int one = someone();
         int other = someone();
-        int n = upTo(9) == 0 ? within(99) : 1 + upTo(14);
-        int debt = upTo(8) - (rarely() ? 1 : 0);
+        int n = upTo(19) == 0 ? within(99) : 1 + upTo(3);
+        int debt = rarely() ? upTo(9) - 1 : upTo(Math.max(model.count(7) - 1, 0));
         int what = within(5);
         int k = rarely() ? within(1) : upTo(1);
         switch (which) {
             case 0, 1 -> same("go(" + n + ")", kin.go(n), model.go(n));
             case 2 -> same("may(" + one + ", " + other + ")", kin.may(one, other), model.may(one, other));
             case 3, 4 -> same("wed(" + one + ", " + other + ")", kin.wed(one, other), model.wed(one, other));
-            case 5 -> same("die(" + one + ")", kin.die(one), model.die(one));
+            case 5 -> same("undo()", kin.undo(), model.undo());
             case 6, 7 -> same("owe(" + one + ", " + other + ", " + n + ")",
                 kin.owe(one, other, n), model.owe(one, other, n));
             case 8 -> same("debt(" + debt + ", " + what + ")", kin.debt(debt, what), model.debt(debt, what));
             case 9, 10 -> same("pay(" + debt + ")", kin.pay(debt), model.pay(debt));
-            case 11 -> same("undo()", kin.undo(), model.undo());
-            case 12 -> same("keep(" + k + ")", kin.keep(k), model.keep(k));
-            default -> same("back(" + k + ")", kin.back(k), model.back(k));
+            case 11 -> same("keep(" + k + ")", kin.keep(k), model.keep(k));
+            case 12 -> same("back(" + k + ")", kin.back(k), model.back(k));
+            default -> same("die(" + one + ")", kin.die(one), model.die(one));
         }
     }
 

@@ -202,6 +202,14 @@ public final class ToldTest {
         C.due("comets", x.count(1), 1);
         C.due("people", x.count(0), 0);
         C.due("law", x.count(3), 2);
+        C.land(x, "child 7;gold 0 5;gold 0 0", 3);
+        C.due("gold of 0", x.count(6), 0);
+        C.land(x, "comet 7;dark", 2);
+        C.due("no comets", x.count(1), 0);
+        C.land(x, "seer 0;seer 0;land;child 0;cloud 1", 5);
+        C.due("who was a seer ahead of land is told no more", x.as(0, 1), 0);
+        C.land(x, "eclipse 2;dark;comet 1", 3);
+        C.due("what was eclipsed ahead of dark is told no more", x.comet(0, 2), 0);
     }
 
     private static void one() {
@@ -336,6 +344,8 @@ public final class ToldTest {
         C.due("kin(0, 60)", x.kin(0, 60), 20);
         C.due("kin(1, 60)", x.kin(1, 60), 8);
         C.due("kin(1, 70)", x.kin(1, 70), 29);
+        C.due("who see nothing together", x.degree(0, 1, 60), CometKin.NONE);
+        C.due("who see it together", x.degree(0, 1, 70), 2);
         C.due("through somebody who saw no cloud", x.degree(1, 3, 50), 1);
         C.due("through somebody who saw no spark", x.degree(0, 4, 60), 2);
     }

@@ -1,6 +1,7 @@
 /** What the tests share: counting wrong answers, and writing texts letter by letter. */
 final class Checks {
     private final String name;
+    private String heading = "";
     private int asked;
     private int wrong;
 
@@ -8,11 +9,16 @@ final class Checks {
         this.name = name;
     }
 
+    /** The promise and the sentence of the document that the answers asked from here on are due by. */
+    void holds(int promise, String sentence) {
+        heading = ", promise " + promise + ", \"" + sentence + "\"";
+    }
+
     void due(String call, long got, long want) {
         asked++;
         if (got != want) {
             wrong++;
-            System.out.println(name + ": " + call + " answered " + got + ", due is " + want);
+            System.out.println(name + heading + ": " + call + " answered " + got + ", due is " + want);
         }
     }
 

@@ -1,13 +1,9 @@
 /** The boundary cases of promises 12 to 21: years and deeds. */
 public final class DeedsBoundsTest {
     private static final Runs R = new Runs("DeedsBoundsTest");
-    private static final int[] FAR = {Integer.MIN_VALUE, Integer.MIN_VALUE + 1, -256, -64, -32, -2, -1, 32, 33, 64, 100,
-        128, 256, 65536, 1 << 30, Integer.MAX_VALUE - 1, Integer.MAX_VALUE};
-    private static final String NINE = "land \"child 0;child 0;child 0;child 0;child 0;child 0;child 0;child 0;child 0\"\n";
-    /** Each one the child of the one ahead. */
-    private static final String LINE = NINE + "land \"to 1 0;to 2 1;to 3 2;to 4 3;to 5 4;to 6 5;to 7 6;to 8 7;comet 0\"\n";
     /** All others children of 0. */
-    private static final String STAR = NINE + "land \"to 1 0;to 2 0;to 3 0;to 4 0;to 5 0;to 6 0;to 7 0;to 8 0;comet 0\"\n";
+    private static final String STAR = Runs.NINE
+        + "land \"to 1 0;to 2 0;to 3 0;to 4 0;to 5 0;to 6 0;to 7 0;to 8 0;comet 0\"\n";
 
     public static void main(String[] args) {
         farNumbers();
@@ -38,18 +34,23 @@ public final class DeedsBoundsTest {
         String two = "land \"child 0;child 0;gold 0 9;comet 1;comet 2\"\nowe(0, 1, 1) 0\n";
         StringBuilder unknown = new StringBuilder(two);
         StringBuilder outside = new StringBuilder(two);
-        for (int far : FAR) {
-            unknown.append(String.format("may(%d, 0) UNKNOWN%nmay(0, %d) UNKNOWN%nwed(%d, 0) UNKNOWN%n", far, far, far));
-            unknown.append(String.format("wed(0, %d) UNKNOWN%ndie(%d) UNKNOWN%nowe(%d, 0, 1) UNKNOWN%n", far, far, far));
-            unknown.append(String.format("owe(0, %d, 1) UNKNOWN%ndebt(%d, 0) UNKNOWN%npay(%d) UNKNOWN%n", far, far, far));
-            unknown.append(String.format("keep(%d) UNKNOWN%nback(%d) UNKNOWN%n", far, far));
-            if (far < 1 || far > 99) {
-                outside.append(String.format("go(%d) OUTSIDE%nowe(0, 1, %d) OUTSIDE%n", far, far));
-            }
-            outside.append(String.format("debt(0, %d) OUTSIDE%n", far));
+        for (int far : Runs.FAR) {
+            addUnknown(unknown, far);
+            outside.append(String.format("go(%d) OUTSIDE%nowe(0, 1, %d) OUTSIDE%ndebt(0, %d) OUTSIDE%n", far, far, far));
+        }
+        for (int shifted : Runs.SHIFTED) {
+            addUnknown(unknown, shifted);
+            outside.append(String.format("debt(0, %d) OUTSIDE%n", shifted));
         }
         R.holds(12, "Refused, and nothing changes: UNKNOWN (no such one, COMET, DEBT;", unknown.toString());
         R.holds(12, "OUTSIDE (another number is not as told)", outside.toString());
+    }
+
+    private static void addUnknown(StringBuilder lines, int far) {
+        lines.append(String.format("may(%d, 0) UNKNOWN%nmay(0, %d) UNKNOWN%nwed(%d, 0) UNKNOWN%n", far, far, far));
+        lines.append(String.format("wed(0, %d) UNKNOWN%ndie(%d) UNKNOWN%nowe(%d, 0, 1) UNKNOWN%n", far, far, far));
+        lines.append(String.format("owe(0, %d, 1) UNKNOWN%ndebt(%d, 0) UNKNOWN%npay(%d) UNKNOWN%n", far, far, far));
+        lines.append(String.format("keep(%d) UNKNOWN%nback(%d) UNKNOWN%n", far, far));
     }
 
     private static void go() {
@@ -114,7 +115,7 @@ public final class DeedsBoundsTest {
             may(-1, 1) UNKNOWN
             may(2, 1) UNKNOWN
             """);
-        R.holds(13, "one and himself, where two are asked)", NINE + """
+        R.holds(13, "one and himself, where two are asked)", Runs.NINE + """
             may(8, 8) UNKNOWN
             may(8, 7) 1
             may(8, 9) UNKNOWN
@@ -124,7 +125,7 @@ public final class DeedsBoundsTest {
 
     private static void mayByTheLaw() {
         for (int law = 0; law <= 6; law++) {
-            StringBuilder lines = new StringBuilder(LINE).append("land \"law ").append(law).append("\"\n");
+            StringBuilder lines = new StringBuilder(Runs.LINE).append("land \"law ").append(law).append("\"\n");
             for (int degree = 1; degree <= 8; degree++) {
                 lines.append(String.format("may(0, %d) %d%nmay(%d, 0) %d%n", degree, degree > law ? 1 : 0, degree,
                     degree > law ? 1 : 0));
@@ -167,7 +168,7 @@ public final class DeedsBoundsTest {
             count(5) 1
             wed(0, 1) NOT
             """);
-        R.holds(14, "They MARRY: how many MARRIAGES there are.", NINE + """
+        R.holds(14, "They MARRY: how many MARRIAGES there are.", Runs.NINE + """
             wed(8, 0) 1
             wed(7, 1) 2
             wed(2, 6) 3
@@ -213,7 +214,7 @@ public final class DeedsBoundsTest {
             one(1, 4) 0
             count(6) 0
             """);
-        R.holds(15, "UNKNOWN; NOT: he does not live, was not born yet.", NINE + """
+        R.holds(15, "UNKNOWN; NOT: he does not live, was not born yet.", Runs.NINE + """
             die(8) 0
             die(8) NOT
             die(9) UNKNOWN
@@ -296,7 +297,7 @@ public final class DeedsBoundsTest {
     }
 
     private static void dieAndLeaveToTheNearest() {
-        R.holds(15, "to those who live and are KIN to him in this YEAR at the least DEGREE that any of these has", LINE + """
+        R.holds(15, "to those who live and are KIN to him in this YEAR at the least DEGREE that any of these has", Runs.LINE + """
             land "gold 0 40"
             die(1) 2
             die(2) 1

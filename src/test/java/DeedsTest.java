@@ -27,6 +27,7 @@ public final class DeedsTest {
     }
 
     private static void go() {
+        C.holds(12, "n YEARS (1 .. 99) go by: the YEAR then. OUTSIDE; FULL: above 99.");
         CometKin x = new CometKin();
         C.due("go(0)", x.go(0), CometKin.OUTSIDE);
         C.due("go(-1)", x.go(-1), CometKin.OUTSIDE);
@@ -43,6 +44,7 @@ public final class DeedsTest {
     }
 
     private static void may() {
+        C.holds(13, "Two MAY MARRY in this YEAR, if both live, were born (not later), are not married, and not NEAR in it.");
         CometKin x = family("comet 6;law 2");
         C.due("may(0, 0)", x.may(0, 0), CometKin.UNKNOWN);
         C.due("may(0, 7)", x.may(0, 7), CometKin.UNKNOWN);
@@ -66,6 +68,7 @@ public final class DeedsTest {
         x.die(2);
         C.due("married no more", x.may(6, 3), 1);
         C.due("with one dead", x.may(6, 2), 0);
+        C.holds(13, "They are NEAR, if they are KIN and it is no more than LAW.");
         // who is of degree 0 is asked nowhere: by law 0 all may marry
         x = family("comet 6;law 0");
         x.go(6);
@@ -76,6 +79,7 @@ public final class DeedsTest {
     }
 
     private static void wed() {
+        C.holds(14, "They MARRY: how many MARRIAGES there are. UNKNOWN; NOT.");
         CometKin x = family("dark");
         C.due("wed(0, 0)", x.wed(0, 0), CometKin.UNKNOWN);
         C.due("wed(7, 0)", x.wed(7, 0), CometKin.UNKNOWN);
@@ -98,6 +102,7 @@ public final class DeedsTest {
     }
 
     private static void dieWithoutKin() {
+        C.holds(15, "UNKNOWN; NOT: he does not live, was not born yet.");
         CometKin x = family("gold 6 9;gold 5 3");
         C.due("die(7)", x.die(7), CometKin.UNKNOWN);
         C.due("die(-1)", x.die(-1), CometKin.UNKNOWN);
@@ -114,6 +119,7 @@ public final class DeedsTest {
     }
 
     private static void dieWithKin() {
+        C.holds(15, "what is left goes in like parts (cut; the rest is lost) to those who live and are KIN to him");
         CometKin x = family("comet 5;gold 2 98;gold 5 1");
         x.go(5);
         C.due("two parents at degree 1", x.die(2), 2);
@@ -131,6 +137,7 @@ public final class DeedsTest {
         C.due("one(4, 4)", x.one(4, 4), 96);
         C.due("a child", x.die(4), 1);
         C.due("one(5, 4)", x.one(5, 4), 97);
+        C.holds(15, "(to none: it is lost)");
         C.due("the last", x.die(5), 0);
         C.due("gold", x.count(6), 0);
         // who are not kin yet have nothing
@@ -145,6 +152,7 @@ public final class DeedsTest {
     }
 
     private static void dieAndLeaveAWidow() {
+        C.holds(15, "of his GOLD half (cut) goes to who was married to him, if that is a WIDOW");
         CometKin x = family("comet 5;law 0;gold 0 9;gold 6 7");
         x.go(5);
         x.wed(0, 1);
@@ -172,6 +180,7 @@ public final class DeedsTest {
     }
 
     private static void owe() {
+        C.holds(16, "A DEBT of n (1 .. 99) more: which it is. UNKNOWN; OUTSIDE; NOT: one of both does not live; FULL.");
         CometKin x = family("dark");
         C.due("owe(0, 0, 1)", x.owe(0, 0, 1), CometKin.UNKNOWN);
         C.due("owe(0, 7, 0)", x.owe(0, 7, 0), CometKin.UNKNOWN);
@@ -182,6 +191,7 @@ public final class DeedsTest {
         C.due("owe(6, 0, 1)", x.owe(6, 0, 1), CometKin.NOT);
         C.due("owe(6, 0, 100)", x.owe(6, 0, 100), CometKin.OUTSIDE);
         C.due("done", x.count(10), 1);
+        C.holds(16, "DEBTS, 8 at most");
         for (int debt = 0; debt < 8; debt++) {
             C.due("owe(5, 0, 99)", x.owe(5, 0, 99), debt);
             C.due("debts", x.count(7), debt + 1);
@@ -193,6 +203,7 @@ public final class DeedsTest {
     }
 
     private static void debt() {
+        C.holds(17, "Of a DEBT: who (what 0), whom (1), how much (2), since when (3), the YEAR in which it is DUE (4; NONE)");
         CometKin x = C.landed("child 0;seer 0;child 0;seer 0;gold 0 20",
             "comet 10;comet 5;spark 20;cloud 30;spark 20;comet 30");
         x.owe(0, 1, 7);
@@ -212,6 +223,7 @@ public final class DeedsTest {
         C.due("debt(0, -1)", x.debt(0, -1), CometKin.OUTSIDE);
         x.go(5);
         x.owe(0, 2, 1);
+        C.holds(17, "in a later YEAR than that (of two in one YEAR, too); never, if there is none.");
         C.due("two in one year", x.debt(4, 4), 20);
         x.owe(0, 1, 1);
         C.due("only one to come", x.debt(5, 4), CometKin.NONE);
@@ -227,6 +239,7 @@ public final class DeedsTest {
     }
 
     private static void pay() {
+        C.holds(18, "It is PAID: GOLD that he has left.");
         CometKin x = C.landed("child 0;child 0;gold 0 20;gold 1 99;comet 1;comet 2");
         x.owe(0, 1, 12);
         x.owe(0, 1, 8);
@@ -242,6 +255,7 @@ public final class DeedsTest {
     }
 
     private static void payRefused() {
+        C.holds(18, "NOT: it was, is not DUE yet, one of both does not live, he has not so much.");
         CometKin x = C.landed("child 0;child 0;gold 0 20;comet 1;comet 2;child 0");
         C.due("no debt", x.pay(0), CometKin.UNKNOWN);
         x.owe(0, 1, 21);
@@ -266,6 +280,7 @@ public final class DeedsTest {
     }
 
     private static void undo() {
+        C.holds(19, "The latest go(), wed(), die(), owe(), pay() is undone");
         CometKin x = C.landed("child 0;widow 0;child 0;to 2 0;gold 0 20;comet 1;comet 2;law 0");
         x.owe(0, 1, 12);
         x.go(2);
@@ -297,6 +312,7 @@ public final class DeedsTest {
     }
 
     private static void undoTheLatestEight() {
+        C.holds(19, "the last 8 can be): how many can be undone yet. NOT: none.");
         CometKin x = new CometKin();
         for (int year = 1; year <= 11; year++) {
             x.go(1);
@@ -319,6 +335,7 @@ public final class DeedsTest {
     }
 
     private static void keepAndBack() {
+        C.holds(20, "All as it is (but THE TEXT, FEASTED, what can be undone) is kept (k 0, 1): the YEAR. UNKNOWN: no such k.");
         CometKin x = C.landed("child 0;widow 0;gold 0 20;comet 1;comet 2");
         C.due("keep(2)", x.keep(2), CometKin.UNKNOWN);
         C.due("keep(-1)", x.keep(-1), CometKin.UNKNOWN);
@@ -336,6 +353,7 @@ public final class DeedsTest {
         x.die(0);
         C.due("keep(0)", x.keep(0), 3);
         C.due("can be undone", x.count(10), 5);
+        C.holds(21, "It is as it was kept, nothing can be undone: the YEAR.");
         C.due("back(1)", x.back(1), 1);
         int[] want = {2, 2, 1, 2, 3, 1, 20, 1, 0, 1, 0, 4};
         for (int what = 0; what < want.length; what++) {
@@ -353,6 +371,7 @@ public final class DeedsTest {
         C.due("back(1)", x.back(1), 10);
         C.due("back(0)", x.back(0), 3);
         keepAndBackOfDebts(x);
+        C.holds(21, "NOT: nothing was kept since the last text.");
         C.due("land", x.land(), 1);
         C.due("back(0)", x.back(0), CometKin.NOT);
         C.due("back(1)", x.back(1), CometKin.NOT);

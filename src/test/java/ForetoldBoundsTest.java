@@ -1,13 +1,6 @@
 /** The boundary cases of promises 22 to 32: what is foretold. */
 public final class ForetoldBoundsTest {
     private static final Runs R = new Runs("ForetoldBoundsTest");
-    private static final int[] FAR = {Integer.MIN_VALUE, Integer.MIN_VALUE + 1, -256, -64, -32, -2, -1, 100, 128, 256,
-        65536, 1 << 30, Integer.MAX_VALUE - 1, Integer.MAX_VALUE};
-    /** Numbers by which a bit would be shifted as by 0, 1 and 2. */
-    private static final int[] SHIFTED = {32, 33, 34, 64};
-    private static final String NINE = "land \"child 0;child 0;child 0;child 0;child 0;child 0;child 0;child 0;child 0\"\n";
-    /** Each one the child of the one ahead. */
-    private static final String LINE = NINE + "land \"to 1 0;to 2 1;to 3 2;to 4 3;to 5 4;to 6 5;to 7 6;to 8 7;comet 0\"\n";
     /** Two who are no SEERS, a parent and a child, and two SEERS. */
     private static final String TWO_AND_TWO = "land \"child 0;child 0;to 1 0;seer 0;seer 0;to 3 2\"\n";
 
@@ -38,7 +31,7 @@ public final class ForetoldBoundsTest {
 
     private static void farOnes() {
         StringBuilder lines = new StringBuilder("land \"child 0;child 0;comet 1\"\n");
-        for (int[] numbers : new int[][] {FAR, SHIFTED}) {
+        for (int[] numbers : new int[][] {Runs.FAR, Runs.SHIFTED}) {
             for (int far : numbers) {
                 lines.append(String.format("first(%d, 0, 1) UNKNOWN%nfirst(0, %d, 1) UNKNOWN%n", far, far));
                 lines.append(String.format("last(%d, 0) UNKNOWN%nlast(0, %d) UNKNOWN%n", far, far));
@@ -52,11 +45,11 @@ public final class ForetoldBoundsTest {
 
     private static void farNumbers() {
         StringBuilder lines = new StringBuilder("land \"child 0;child 0;comet 1\"\n");
-        for (int far : FAR) {
+        for (int far : Runs.FAR) {
             lines.append(String.format("bestBorn(0, 1, %d, 0) OUTSIDE%nfeasted(0, 1, %d, 0) OUTSIDE%n", far, far));
             addOutside(lines, far);
         }
-        for (int shifted : SHIFTED) {
+        for (int shifted : Runs.SHIFTED) {
             addOutside(lines, shifted);
         }
         R.holds(22, "OUTSIDE (another number is not as told)", lines.toString());
@@ -71,7 +64,7 @@ public final class ForetoldBoundsTest {
     }
 
     private static void first() {
-        R.holds(22, "FIRST; NONE. UNKNOWN; OUTSIDE: the DEGREE (0 .. 9).", LINE + """
+        R.holds(22, "FIRST; NONE. UNKNOWN; OUTSIDE: the DEGREE (0 .. 9).", Runs.LINE + """
             first(0, 8, -1) OUTSIDE
             first(0, 8, 0) NONE
             first(0, 8, 7) NONE
@@ -129,7 +122,7 @@ public final class ForetoldBoundsTest {
             last(0, 1) NONE
             last(0, 2) 99
             """);
-        R.holds(23, "LAST; NONE. UNKNOWN.", LINE + """
+        R.holds(23, "LAST; NONE. UNKNOWN.", Runs.LINE + """
             last(0, 0) UNKNOWN
             last(0, 9) UNKNOWN
             last(9, 0) UNKNOWN
@@ -176,7 +169,7 @@ public final class ForetoldBoundsTest {
             bestBorn(0, 1, 99, 0) 10
             bestBorn(0, 1, 99, 1) 0
             """);
-        R.holds(24, "UNKNOWN; OUTSIDE: the YEAR told (0 .. 99), what; FULL: there are 9 of PEOPLE.", """
+        R.holds(24, "BEST BORN: the YEAR (what 0), to how many (1); NONE. UNKNOWN; OUTSIDE: the YEAR told (0 .. 99), what", """
             land "child 0;child 99;child 0;comet 0;comet 99"
             bestBorn(0, 2, -1, 0) OUTSIDE
             bestBorn(0, 2, 0, 0) 0
@@ -192,7 +185,7 @@ public final class ForetoldBoundsTest {
             bestBorn(0, 2, 98, 0) NONE
             bestBorn(0, 2, 99, 0) 99
             """);
-        R.holds(24, "of several the first", """
+        R.holds(24, "of several the first; to how many; none.", """
             land "child 0;child 0"
             bestBorn(0, 1, 99, 0) 0
             bestBorn(0, 1, 99, 1) 0
@@ -262,7 +255,7 @@ public final class ForetoldBoundsTest {
             weddings(0) 0
             weddings(1) NONE
             """);
-        R.holds(25, "WEDDINGS: the most that can be made now, by pairs who MAY MARRY", NINE + """
+        R.holds(25, "WEDDINGS: the most that can be made now, by pairs who MAY MARRY", Runs.NINE + """
             weddings(0) 4
             weddings(1) 0
             weddings(2) 1
@@ -276,7 +269,7 @@ public final class ForetoldBoundsTest {
             weddings(0) 2
             count(5) 1
             """);
-        R.holds(25, "by pairs who MAY MARRY", LINE + """
+        R.holds(25, "by pairs who MAY MARRY", Runs.LINE + """
             land "law 6"
             weddings(0) 2
             weddings(1) 0
@@ -296,7 +289,7 @@ public final class ForetoldBoundsTest {
 
     private static void weddingsByTheFirstPair() {
         // all but 7 and 8 are NEAR: the first pair is the last one
-        R.holds(25, "with which, nobody less than its lesser one marrying, there are as many.", NINE + """
+        R.holds(25, "with which, nobody less than its lesser one marrying, there are as many.", Runs.NINE + """
             land "to 1 0;to 2 0;to 3 0;to 4 0;to 5 0;to 6 0;to 7 0;of 8 1 2;comet 0"
             degree(7, 8, 0) 3
             degree(0, 8, 0) 2
@@ -345,7 +338,7 @@ public final class ForetoldBoundsTest {
             makes(1) 1
             count(1) 1
             """);
-        R.holds(26, "MAKES: the COMET without which most pairs fewer are KIN in this YEAR", LINE + """
+        R.holds(26, "MAKES: the COMET without which most pairs fewer are KIN in this YEAR", Runs.LINE + """
             makes(0) 0
             makes(1) 36
             land "dark;cloud 0;cloud 0;cloud 0;cloud 0;cloud 0;comet 0"
@@ -436,7 +429,7 @@ public final class ForetoldBoundsTest {
             forget() 8
             feasted(0, 1, 99, 1) 1
             """);
-        R.holds(27, "FEASTED: how many. UNKNOWN; OUTSIDE; FULL.", NINE + """
+        R.holds(27, "FEASTED: how many. UNKNOWN; OUTSIDE; FULL.", Runs.NINE + """
             feasted(8, 8, 5, 1) UNKNOWN
             feasted(8, 9, 5, 1) UNKNOWN
             feasted(9, 8, 5, 1) UNKNOWN
@@ -591,7 +584,7 @@ public final class ForetoldBoundsTest {
     }
 
     private static void left() {
-        R.holds(31, "n at least (0 .. 8) live on, if each dies by p tenths (0 .. 10), by himself.", LINE + """
+        R.holds(31, "n at least (0 .. 8) live on, if each dies by p tenths (0 .. 10), by himself.", Runs.LINE + """
             left(0, -1, 5, 0) OUTSIDE
             left(0, 9, 5, 0) OUTSIDE
             left(0, 0, -1, 0) OUTSIDE
@@ -618,7 +611,7 @@ public final class ForetoldBoundsTest {
             left(0, 0, 5, 1) 1
             """);
         // of eight who live by one half: 1, 8, 28, 56, 70, 56, 28, 8, 1 of 256
-        R.holds(31, "Parts are told in lowest terms: above (part 0), below (1).", LINE + """
+        R.holds(31, "Parts are told in lowest terms: above (part 0), below (1).", Runs.LINE + """
             left(4, 7, 5, 0) 9
             left(4, 7, 5, 1) 256
             left(4, 6, 5, 0) 37
@@ -676,7 +669,7 @@ public final class ForetoldBoundsTest {
     }
 
     private static void countOfTheMost() {
-        R.holds(32, "0 PEOPLE, 1 COMETS, 2 the YEAR, 3 LAW, 4 those who live, by bits, 5 MARRIAGES, 6 GOLD of all", NINE + """
+        R.holds(32, "0 PEOPLE, 1 COMETS, 2 the YEAR, 3 LAW, 4 those who live, by bits, 5 MARRIAGES, 6 GOLD of all", Runs.NINE + """
             land "gold 0 99;gold 1 99;gold 2 99;gold 3 99;gold 4 99;gold 5 99;gold 6 99;gold 7 99;gold 8 99"
             land "comet 0;comet 0;comet 0;comet 0;comet 0;comet 0;law 6"
             count(0) 9
@@ -693,7 +686,7 @@ public final class ForetoldBoundsTest {
             count(2) 99
             count(12) OUTSIDE
             """);
-        R.holds(32, "7 DEBTS, 8 pairs who are KIN in this YEAR, 9 FEASTED, 10 how many can be undone", LINE + """
+        R.holds(32, "7 DEBTS, 8 pairs who are KIN in this YEAR, 9 FEASTED, 10 how many can be undone", Runs.LINE + """
             count(8) 36
             """ + "owe(0, 1, 1) 0\nowe(0, 1, 1) 1\nowe(0, 1, 1) 2\nowe(0, 1, 1) 3\n"
             + "owe(0, 1, 1) 4\nowe(0, 1, 1) 5\nowe(0, 1, 1) 6\nowe(0, 1, 1) 7\n"
@@ -762,7 +755,7 @@ public final class ForetoldBoundsTest {
     }
 
     private static void refusedInTheirOrder() {
-        R.holds(24, "NOT (not now: as told), FULL: the first of these that fits.", NINE + """
+        R.holds(24, "NOT (not now: as told), FULL: the first of these that fits.", Runs.NINE + """
             first(0, 0, 10) UNKNOWN
             bestBorn(0, 0, 100, 2) UNKNOWN
             bestBorn(0, 9, 100, 0) UNKNOWN

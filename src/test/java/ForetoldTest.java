@@ -24,6 +24,7 @@ public final class ForetoldTest {
     }
 
     private static void first() {
+        C.holds(22, "FIRST of two, from this YEAR on: the first YEAR in which they are KIN at a told DEGREE at most; none up to 99.");
         CometKin x = C.landed(FAMILY, "comet 20;comet 39;comet 40");
         C.due("first(0, 0, 9)", x.first(0, 0, 9), CometKin.UNKNOWN);
         C.due("first(0, 5, 10)", x.first(0, 5, 10), CometKin.UNKNOWN);
@@ -46,6 +47,7 @@ public final class ForetoldTest {
     }
 
     private static void last() {
+        C.holds(23, "LAST: the last YEAR up to 99 in which they are not NEAR; none from this one on.");
         CometKin x = C.landed(FAMILY, "comet 20;comet 39;comet 99");
         C.due("last(0, 0)", x.last(0, 0), CometKin.UNKNOWN);
         C.due("last(5, 0)", x.last(5, 0), CometKin.UNKNOWN);
@@ -64,6 +66,7 @@ public final class ForetoldTest {
     }
 
     private static void bestBorn() {
+        C.holds(24, "such that in the told one he is KIN to most who live now; of several the first; to how many; none.");
         // 0, 1 born in 10, 20; the child 2 of both; 3 a seer who sees no spark
         CometKin x = C.landed("child 10;child 20;child 20;of 2 0 1;seer 0;to 3 0;spark 30;comet 40;spark 50");
         C.due("by 25, without a comet, born with his mother", x.bestBorn(0, 1, 25, 0), 20);
@@ -75,6 +78,7 @@ public final class ForetoldTest {
         C.due("to those who saw it", x.bestBorn(0, 1, 39, 1), 3);
         C.due("to all", x.bestBorn(0, 1, 40, 1), 4);
         C.due("born by 40", x.bestBorn(0, 1, 40, 0), 20);
+        C.holds(24, "the YEAR of his BIRTH, from this one to a told one, in which both were born (not later)");
         x.go(35);
         C.due("from this year on", x.bestBorn(0, 1, 99, 0), 35);
         C.due("to all", x.bestBorn(0, 1, 99, 1), 4);
@@ -100,6 +104,7 @@ public final class ForetoldTest {
     }
 
     private static void bestBornRefused() {
+        C.holds(24, "UNKNOWN; OUTSIDE: the YEAR told (0 .. 99), what; FULL: there are 9 of PEOPLE.");
         CometKin x = C.landed("child 1;child 1");
         C.due("one and himself", x.bestBorn(0, 0, 100, 2), CometKin.UNKNOWN);
         C.due("nobody", x.bestBorn(0, 2, 5, 0), CometKin.UNKNOWN);
@@ -108,6 +113,7 @@ public final class ForetoldTest {
         C.due("no year", x.bestBorn(0, 1, -1, 0), CometKin.OUTSIDE);
         C.due("no what", x.bestBorn(0, 1, 5, 2), CometKin.OUTSIDE);
         C.due("no what", x.bestBorn(0, 1, 5, -1), CometKin.OUTSIDE);
+        C.holds(24, "FULL: there are 9 of PEOPLE.");
         C.land(x, "child 1;child 1;child 1;child 1;child 1;child 1", 6);
         C.due("eight", x.bestBorn(0, 1, 5, 0), 1);
         C.land(x, "child 1", 1);
@@ -117,6 +123,7 @@ public final class ForetoldTest {
     }
 
     private static void weddings() {
+        C.holds(25, "WEDDINGS: the most that can be made now, by pairs who MAY MARRY");
         CometKin x = C.landed("child 0;child 0;child 0;child 3;to 1 0;to 2 0;comet 1");
         C.due("weddings(3)", x.weddings(3), CometKin.OUTSIDE);
         C.due("weddings(-1)", x.weddings(-1), CometKin.OUTSIDE);
@@ -140,6 +147,7 @@ public final class ForetoldTest {
     }
 
     private static void weddingsOfMany() {
+        C.holds(25, "the first pair (its lesser one, then the other one least) with which");
         CometKin x = C.landed("child 0;child 0;child 0;child 0;child 0;child 0;child 0;child 0;child 0;law 0");
         C.due("nine free", x.weddings(0), 4);
         C.due("the first pair", x.weddings(1), 0);
@@ -169,6 +177,7 @@ public final class ForetoldTest {
     }
 
     private static void makes() {
+        C.holds(26, "MAKES: the COMET without which most pairs fewer are KIN in this YEAR");
         CometKin x = C.landed(FAMILY, "cloud 41;comet 45;comet 50");
         C.due("makes(2)", x.makes(2), CometKin.OUTSIDE);
         C.due("makes(-1)", x.makes(-1), CometKin.OUTSIDE);
@@ -192,6 +201,7 @@ public final class ForetoldTest {
     }
 
     private static void makesOfEclipses() {
+        C.holds(26, "(what is CANCELLED found anew); of several the least; how many fewer; none: none makes any.");
         // without 1 the eclipse cancels 0: all pairs fewer; without 0 it cancels 1 as before
         CometKin x = C.landed("child 0;child 0;child 0;to 1 0;to 2 0;comet 5;comet 6;eclipse 7;spark 4");
         x.go(7);
@@ -210,6 +220,7 @@ public final class ForetoldTest {
     }
 
     private static void feasted() {
+        C.holds(27, "FEASTED: how many. UNKNOWN; OUTSIDE; FULL.");
         CometKin x = C.landed(FAMILY);
         C.due("one and himself", x.feasted(0, 0, 100, 2), CometKin.UNKNOWN);
         C.due("nobody", x.feasted(0, 5, 1, 1), CometKin.UNKNOWN);
@@ -218,6 +229,7 @@ public final class ForetoldTest {
         C.due("no year", x.feasted(0, 1, -1, 1), CometKin.OUTSIDE);
         C.due("no is", x.feasted(0, 1, 1, 2), CometKin.OUTSIDE);
         C.due("no is", x.feasted(0, 1, 1, -1), CometKin.OUTSIDE);
+        C.holds(27, "FEASTED, 8 at most: two were KIN in a YEAR (1), or not (0).");
         for (int feast = 1; feast <= 8; feast++) {
             C.due("feasted", x.feasted(0, 1, 99, feast % 2), feast);
             C.due("count(9)", x.count(9), feast);
@@ -228,6 +240,7 @@ public final class ForetoldTest {
     }
 
     private static void forget() {
+        C.holds(28, "Nothing is FEASTED: how many there were.");
         CometKin x = C.landed(FAMILY);
         C.due("forget", x.forget(), 0);
         x.feasted(0, 1, 99, 1);
@@ -241,6 +254,7 @@ public final class ForetoldTest {
     }
 
     private static void truths() {
+        C.holds(29, "TRUTHS: how many (what 0), COMETS of one KIND in all, by bits (1; none: 0). OUTSIDE.");
         // 1, 2 seers; 3 the child of 0, and 4 of 1
         CometKin x = C.landed("child 0;seer 0;seer 0;child 0;to 3 0;seer 0;to 4 1;comet 10;comet 20;eclipse 30");
         C.due("truths(2)", x.truths(2), CometKin.OUTSIDE);
@@ -270,6 +284,7 @@ public final class ForetoldTest {
     }
 
     private static void truth() {
+        C.holds(30, "The KIND of a COMET in the first TRUTH; NONE: there is none. UNKNOWN.");
         CometKin x = C.landed("child 0;seer 0;child 0;to 2 0;seer 0;to 3 1;cloud 10;spark 20;eclipse 90;cloud 91");
         C.due("truth(4)", x.truth(4), CometKin.UNKNOWN);
         C.due("truth(-1)", x.truth(-1), CometKin.UNKNOWN);
@@ -304,6 +319,7 @@ public final class ForetoldTest {
     }
 
     private static void left() {
+        C.holds(31, "n at least (0 .. 8) live on, if each dies by p tenths (0 .. 10), by himself.");
         CometKin x = C.landed("child 0;child 0;child 0;child 0;to 1 0;to 2 0;to 3 0;comet 5");
         C.due("none yet, 0 at least", x.left(0, 0, 3, 0), 1);
         C.due("none yet, 0 at least", x.left(0, 0, 3, 1), 1);
@@ -339,6 +355,7 @@ public final class ForetoldTest {
     }
 
     private static void leftRefused() {
+        C.holds(31, "LEFT. UNKNOWN; OUTSIDE.");
         CometKin x = C.landed("child 0");
         C.due("nobody", x.left(1, 9, 11, 2), CometKin.UNKNOWN);
         C.due("nobody", x.left(-1, 0, 0, 0), CometKin.UNKNOWN);
@@ -352,6 +369,7 @@ public final class ForetoldTest {
     }
 
     private static void count() {
+        C.holds(32, "0 PEOPLE, 1 COMETS, 2 the YEAR, 3 LAW, 4 those who live, by bits, 5 MARRIAGES, 6 GOLD of all, 7 DEBTS");
         CometKin x = C.landed(FAMILY, "gold 0 5;gold 4 7;comet 45;cloud 50;law 4");
         x.go(45);
         x.wed(0, 1);

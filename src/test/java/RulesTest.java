@@ -12,7 +12,7 @@ import java.util.regex.Matcher;
 import java.util.regex.Pattern;
 import java.util.stream.Collectors;
 
-/** The document's face, and those rules of LANGUAGE.md that can be seen from outside or from single words. */
+/** Rule 1 of LANGUAGE.md, the document's face, and what other rules say of single words. */
 public final class RulesTest {
     private static final Checks C = new Checks("RulesTest");
     private static final String[] FACE = {
@@ -96,19 +96,5 @@ public final class RulesTest {
             Matcher found = Pattern.compile(forbidden).matcher(code);
             yes("nothing like " + forbidden, !found.find());
         }
-        int longest = 0;
-        int lines = 0;
-        for (String line : code.split("\n")) {
-            // a method of the class or of one inside it begins and ends at one of these depths
-            if (line.matches(" {4}( {4})?\\S.*\\) \\{")) {
-                lines = 0;
-            }
-            lines++;
-            if (line.matches(" {4}( {4})?\\}")) {
-                longest = Math.max(longest, lines);
-                lines = -1000;
-            }
-        }
-        yes("sixty lines a method at most, the longest has " + longest, longest > 10 && longest <= 60);
     }
 }

@@ -22,11 +22,21 @@ import java.util.regex.Pattern;
  * it was not: they must answer alike.
  */
 final class Runs {
+    /** Numbers of which none is one of people, a comet, a debt, a kind or a year, whatever a machine makes of them. */
+    static final int[] FAR = {Integer.MIN_VALUE, Integer.MIN_VALUE + 1, -256, -64, -32, -2, -1, 100, 128, 256, 65536,
+        1 << 30, Integer.MAX_VALUE - 1, Integer.MAX_VALUE};
+    /** Numbers by which a bit would be shifted as by 0, 1 and 2. */
+    static final int[] SHIFTED = {32, 33, 34, 64};
+    /** A line on which nine of no kin land. */
+    static final String NINE = "land \"" + "child 0;".repeat(8) + "child 0\"\n";
+    /** Nine, each one the child of the one ahead, and a comet that all see. */
+    static final String LINE = NINE + "land \"to 1 0;to 2 1;to 3 2;to 4 3;to 5 4;to 6 5;to 7 6;to 8 7;comet 0\"\n";
+
     private static final int MOST_CALLS = 512;
     private static final Map<String, Long> NAMES =
         Map.of("NONE", -1L, "UNKNOWN", -2L, "OUTSIDE", -3L, "NOT", -4L, "FULL", -5L);
     private static final Pattern CALL = Pattern.compile("(\\w+)\\(([-0-9, ]*)\\)");
-    private static final Pattern LINE = Pattern.compile("(\\w+\\([-0-9, ]*\\)) (-?\\d+|[A-Z]+)");
+    private static final Pattern CALL_LINE = Pattern.compile("(\\w+\\([-0-9, ]*\\)) (-?\\d+|[A-Z]+)");
     private static final Pattern TEXT_LINE = Pattern.compile("(write|land|fault) \"(.*)\"(?: (\\d+|NONE))?");
 
     private final String name;
@@ -92,7 +102,7 @@ final class Runs {
     }
 
     private void run(String line) {
-        Matcher call = LINE.matcher(line);
+        Matcher call = CALL_LINE.matcher(line);
         Matcher text = TEXT_LINE.matcher(line);
         if (line.equals("----")) {
             fresh();

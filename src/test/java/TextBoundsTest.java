@@ -151,7 +151,7 @@ public final class TextBoundsTest {
             write(255) 1
             """);
         // neither is erasing one of the deeds, nor does it change what was told
-        R.holds(3, "The latest go(), wed(), die(), owe(), pay() is undone", """
+        R.holds(19, "The latest go(), wed(), die(), owe(), pay() is undone", """
             land "child 3;comet 4"
             go(5) 5
             write "dark"

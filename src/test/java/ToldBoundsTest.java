@@ -1,14 +1,6 @@
 /** The boundary cases of promises 6 to 11: what is told of people and comets, and who is kin. */
 public final class ToldBoundsTest {
     private static final Runs R = new Runs("ToldBoundsTest");
-    /** Numbers of which none is one of people, a comet, a kind or a year, whatever a machine makes of them. */
-    private static final int[] FAR = {Integer.MIN_VALUE, Integer.MIN_VALUE + 1, -256, -64, -32, -2, -1, 100, 128, 256,
-        65536, 1 << 30, Integer.MAX_VALUE - 1, Integer.MAX_VALUE};
-    /** Numbers by which a bit would be shifted as by 0, 1 and 2. */
-    private static final int[] SHIFTED = {32, 33, 34, 64};
-    private static final String NINE = "land \"child 0;child 0;child 0;child 0;child 0;child 0;child 0;child 0;child 0\"\n";
-    /** Each one the child of the one ahead. */
-    private static final String LINE = NINE + "land \"to 1 0;to 2 1;to 3 2;to 4 3;to 5 4;to 6 5;to 7 6;to 8 7;comet 0\"\n";
 
     public static void main(String[] args) {
         farNumbers();
@@ -31,13 +23,13 @@ public final class ToldBoundsTest {
         String small = "land \"child 1;seer 2;comet 3;cloud 4\"\n";
         StringBuilder ones = new StringBuilder(small);
         StringBuilder others = new StringBuilder(small);
-        for (int far : FAR) {
+        for (int far : Runs.FAR) {
             addUnknown(ones, far);
             others.append(String.format("one(0, %d) OUTSIDE%ncomet(0, %d) OUTSIDE%nas(0, %d) OUTSIDE%n", far, far, far));
             others.append(String.format("cometAs(0, %d) OUTSIDE%ndegree(0, 1, %d) OUTSIDE%n", far, far));
             others.append(String.format("degree(1, 1, %d) OUTSIDE%nkin(0, %d) OUTSIDE%n", far, far));
         }
-        for (int shifted : SHIFTED) {
+        for (int shifted : Runs.SHIFTED) {
             addUnknown(ones, shifted);
             others.append(String.format("one(0, %d) OUTSIDE%ncomet(0, %d) OUTSIDE%n", shifted, shifted));
             others.append(String.format("as(0, %d) OUTSIDE%ncometAs(0, %d) OUTSIDE%n", shifted, shifted));
@@ -70,6 +62,13 @@ public final class ToldBoundsTest {
             one(0, 4) 0
             one(2, 4) 99
             """);
+        R.holds(6, "of a KIND, 0 PLAIN, 1 SEER, 2 WIDOW, born in a YEAR", """
+            land "widow 0;seer 99;child 0"
+            one(0, 0) 2
+            one(1, 0) 1
+            one(2, 0) 0
+            one(3, 0) UNKNOWN
+            """);
         R.holds(6, "1 he lives, 0 (5), to whom married (6; NONE). UNKNOWN; OUTSIDE.", """
             land "child 0;child 0;child 1"
             one(0, 5) 1
@@ -88,7 +87,7 @@ public final class ToldBoundsTest {
             one(1, 6) NONE
             one(1, 5) 1
             """);
-        R.holds(6, "PEOPLE are 0, 1 .. as they come, 9 at most (none at first)", "one(0, 0) UNKNOWN\n" + NINE + """
+        R.holds(6, "PEOPLE are 0, 1 .. as they come, 9 at most (none at first)", "one(0, 0) UNKNOWN\n" + Runs.NINE + """
             one(8, 1) 0
             one(8, 5) 1
             one(9, 1) UNKNOWN
@@ -97,7 +96,7 @@ public final class ToldBoundsTest {
     }
 
     private static void comet() {
-        R.holds(7, "Of a COMET: KIND (what 0), YEAR (1), 1 it is CANCELLED, 0 (2), who SEES it, by bits (3).", """
+        R.holds(7, "Of a COMET: KIND (what 0), YEAR (1), 1 it is CANCELLED, 0 (2), who SEES it, by bits (3). UNKNOWN; OUTSIDE.", """
             comet(0, 0) UNKNOWN
             land "child 1;seer 1;comet 0;cloud 99;spark 50;eclipse 51"
             comet(0, -1) OUTSIDE
@@ -118,7 +117,15 @@ public final class ToldBoundsTest {
             comet(4, 4) UNKNOWN
             comet(-1, 0) UNKNOWN
             """);
-        R.holds(7, "COMETS are 0, 1 .. as they come, 6 at most (none at first)", NINE + """
+        R.holds(7, "each in a YEAR, of a KIND, 0 TRUE, 1 CLOUDED, 2 FALSE, 3 ECLIPSED.", """
+            land "eclipse 99;spark 0;cloud 99;comet 0"
+            comet(0, 0) 3
+            comet(1, 0) 2
+            comet(2, 0) 1
+            comet(3, 0) 0
+            comet(4, 0) UNKNOWN
+            """);
+        R.holds(7, "COMETS are 0, 1 .. as they come, 6 at most (none at first)", Runs.NINE + """
             land "comet 9;comet 8;comet 7;comet 6;comet 5;comet 4"
             comet(0, 1) 9
             comet(5, 1) 4
@@ -241,7 +248,7 @@ public final class ToldBoundsTest {
             as(2, 2) NOT
             as(2, 3) 1
             """);
-        R.holds(8, "COMETS that he SEES, by bits. UNKNOWN; OUTSIDE; NOT: he is none such.", NINE + """
+        R.holds(8, "COMETS that he SEES, by bits. UNKNOWN; OUTSIDE; NOT: he is none such.", Runs.NINE + """
             land "spark 1;eclipse 2;spark 3"
             as(8, 1) 4
             as(8, 2) NOT
@@ -296,7 +303,7 @@ public final class ToldBoundsTest {
     }
 
     private static void yearsOfDegreeAndKin() {
-        R.holds(10, "DEGREE of two in a YEAR; NONE: they are not KIN. UNKNOWN (one and himself: 0); OUTSIDE.", LINE + """
+        R.holds(10, "DEGREE of two in a YEAR; NONE: they are not KIN. UNKNOWN (one and himself: 0); OUTSIDE.", Runs.LINE + """
             degree(0, 1, -1) OUTSIDE
             degree(0, 1, 0) 1
             degree(0, 1, 99) 1
@@ -309,7 +316,7 @@ public final class ToldBoundsTest {
             degree(9, 9, 0) UNKNOWN
             degree(-1, -1, 0) UNKNOWN
             """);
-        R.holds(11, "All others who are KIN to one in a YEAR, by bits. UNKNOWN; OUTSIDE.", LINE + """
+        R.holds(11, "All others who are KIN to one in a YEAR, by bits. UNKNOWN; OUTSIDE.", Runs.LINE + """
             kin(0, -1) OUTSIDE
             kin(0, 0) 510
             kin(0, 99) 510
@@ -328,13 +335,13 @@ public final class ToldBoundsTest {
     }
 
     private static void degree() {
-        StringBuilder line = new StringBuilder(LINE);
+        StringBuilder line = new StringBuilder(Runs.LINE);
         for (int other = 0; other < 9; other++) {
             line.append("degree(0, ").append(other).append(", 5) ").append(other).append("\n");
             line.append("degree(").append(other).append(", 0, 5) ").append(other).append("\n");
         }
         R.holds(10, "their DEGREE is the fewest such steps (of one to himself 0)", line.toString());
-        R.holds(10, "their DEGREE is the fewest such steps", LINE + """
+        R.holds(10, "their DEGREE is the fewest such steps", Runs.LINE + """
             land "of 8 7 0"
             degree(0, 8, 5) 1
             degree(0, 4, 5) 4
@@ -345,7 +352,7 @@ public final class ToldBoundsTest {
             land "to 8 0"
             degree(7, 8, 5) 8
             """);
-        R.holds(10, "NONE: they are not KIN.", NINE + """
+        R.holds(10, "NONE: they are not KIN.", Runs.NINE + """
             degree(0, 8, 99) NONE
             land "to 8 0"
             degree(0, 8, 99) NONE
@@ -432,7 +439,7 @@ public final class ToldBoundsTest {
             kin(0, 99) 0
             kin(1, 0) UNKNOWN
             """);
-        R.holds(11, "All others who are KIN to one in a YEAR, by bits.", NINE + """
+        R.holds(11, "All others who are KIN to one in a YEAR, by bits.", Runs.NINE + """
             kin(0, 99) 0
             kin(8, 99) 0
             land "to 8 0;comet 99"

@@ -24,12 +24,15 @@ public final class ToldTest {
     }
 
     private static void newObject() {
+        C.holds(1, "Nobody, no COMETS.");
         CometKin x = new CometKin();
         int[] want = {0, 0, 0, 2, 0, 0, 0, 0, 0, 0, 0, 0, CometKin.OUTSIDE};
         for (int what = 0; what < want.length; what++) {
             C.due("count(" + what + ")", x.count(what), want[what]);
         }
+        C.holds(32, "9 FEASTED, 10 how many can be undone, 11 letters of THE TEXT. OUTSIDE.");
         C.due("count(-1)", x.count(-1), CometKin.OUTSIDE);
+        C.holds(1, "nothing is kept or can be undone.");
         C.due("back(0)", x.back(0), CometKin.NOT);
         C.due("undo()", x.undo(), CometKin.NOT);
         C.due("weddings(0)", x.weddings(0), 0);
@@ -38,11 +41,13 @@ public final class ToldTest {
     }
 
     private static void write() {
+        C.holds(2, "A letter (its number, 0 .. 255) more of THE TEXT: how many it has.");
         CometKin x = new CometKin();
         C.due("write(-1)", x.write(-1), CometKin.OUTSIDE);
         C.due("write(256)", x.write(256), CometKin.OUTSIDE);
         C.due("write(0)", x.write(0), 1);
         C.due("write(255)", x.write(255), 2);
+        C.holds(2, "THE TEXT is a row of letters, 160 at most");
         for (int letters = 3; letters <= 160; letters++) {
             C.due("write(32)", x.write(32), letters);
         }
@@ -52,6 +57,7 @@ public final class ToldTest {
     }
 
     private static void erase() {
+        C.holds(3, "THE TEXT is empty: how many letters it had.");
         CometKin x = new CometKin();
         C.due("erase()", x.erase(), 0);
         C.tell(x, "dark");
@@ -63,6 +69,7 @@ public final class ToldTest {
     }
 
     private static void faultsOfWordsAndSigns() {
+        C.holds(4, "The place of the FAULT (the letter with which the TOKEN begins, or the length); NONE.");
         CometKin x = new CometKin();
         C.faultAt(x, "", 0);
         C.faultAt(x, "   ", 3);
@@ -93,6 +100,7 @@ public final class ToldTest {
     }
 
     private static void faultsOfNumbers() {
+        C.holds(4, "that cannot stand there (a number out of its bounds, of more digits, also)");
         CometKin x = new CometKin();
         C.faultAt(x, "comet 99", CometKin.NONE);
         C.faultAt(x, "comet 00", CometKin.NONE);
@@ -113,11 +121,13 @@ public final class ToldTest {
     }
 
     private static void faultsOfNumbersOfThings() {
+        C.holds(4, "a seventh cannot stand there (at its word)");
         CometKin x = new CometKin();
         C.faultAt(x, "comet 1;cloud 1;spark 1;eclipse 1;comet 1;comet 1", CometKin.NONE);
         C.faultAt(x, "comet 1;cloud 1;spark 1;eclipse 1;comet 1;comet 1; spark 1", 51);
         C.faultAt(x, "comet 1;cloud 1;spark 1;eclipse 1;comet 1;comet 1;dark;spark 1", CometKin.NONE);
         C.faultAt(x, "comet 1;cloud 1;spark 1;eclipse 1;comet 1;comet 1;land;spark 1", CometKin.NONE);
+        C.holds(4, "a tenth cannot stand there");
         String nine = "seer 1;seer 1;seer 1;child 1;child 1;child 1;widow 1;widow 1;widow 1";
         C.faultAt(x, nine, CometKin.NONE);
         C.faultAt(x, nine + ";child", nine.length() + 1);
@@ -126,11 +136,13 @@ public final class ToldTest {
         C.faultAt(x, nine + ";land;widow 1", CometKin.NONE);
         C.faultAt(x, nine + ";dark;widow 1", nine.length() + 6);
         C.faultAt(x, nine + ";land;gold 0 1", nine.length() + 11);
+        C.holds(4, "behind the 14th no ; can stand)");
         String fourteen = "dark;dark;dark;dark;dark;dark;dark;dark;dark;dark;dark;dark;dark;dark";
         C.faultAt(x, fourteen, CometKin.NONE);
         C.faultAt(x, fourteen + " ", CometKin.NONE);
         C.faultAt(x, fourteen + " ;", fourteen.length() + 1);
         C.faultAt(x, fourteen + ";dark", fourteen.length());
+        C.holds(4, "PEOPLE such as there are behind the CLAUSES ahead");
         C.land(x, nine, 9);
         C.faultAt(x, "child 1", 0);
         C.faultAt(x, "gold 8 1", CometKin.NONE);
@@ -138,6 +150,7 @@ public final class ToldTest {
     }
 
     private static void faultsOfParents() {
+        C.holds(4, "M and F less than I, F not M (else a FAULT at it)");
         CometKin x = C.landed("child 1;child 1;child 1");
         C.faultAt(x, "of 2 0 1", CometKin.NONE);
         C.faultAt(x, "of 2 1 0", CometKin.NONE);
@@ -163,6 +176,7 @@ public final class ToldTest {
     }
 
     private static void land() {
+        C.holds(5, "THE TEXT's CLAUSES are done, and it is empty then: how many there were.");
         CometKin x = new CometKin();
         C.due("land of nothing", x.land(), CometKin.NOT);
         C.land(x, "child 1;gold 0 7;law 5;comet 9", 4);
@@ -173,6 +187,7 @@ public final class ToldTest {
         C.due("gold", x.count(6), 7);
         C.land(x, "gold 0 8;gold 0 9;gold 1 4", 3);
         C.due("gold", x.count(6), 13);
+        C.holds(5, "Behind them it is YEAR 0, all live, nobody is married, owes, GOLD is as told, nothing is FEASTED");
         x.go(12);
         x.wed(0, 1);
         x.owe(0, 1, 3);
@@ -191,6 +206,7 @@ public final class ToldTest {
         }
         C.due("back(0)", x.back(0), CometKin.NOT);
         C.due("undo()", x.undo(), CometKin.NOT);
+        C.holds(5, "land: all as at first");
         C.land(x, "land", 1);
         int[] first = {0, 0, 0, 2, 0, 0, 0, 0, 0, 0, 0, 0};
         for (int what = 0; what < first.length; what++) {
@@ -198,6 +214,7 @@ public final class ToldTest {
         }
         C.land(x, "child 5", 1);
         C.due("gold at first", x.one(0, 4), 0);
+        C.holds(5, "CLAUSES are done in their order.");
         C.land(x, "comet 5;dark;law 3;land;spark 4", 5);
         C.due("comets", x.count(1), 1);
         C.due("people", x.count(0), 0);
@@ -213,6 +230,7 @@ public final class ToldTest {
     }
 
     private static void one() {
+        C.holds(6, "Of one: KIND (what 0), YEAR of his BIRTH (1), MOTHER (2; NONE), FATHER (3; NONE), GOLD (4)");
         CometKin x = C.landed(FAMILY, "gold 3 33");
         int[][] want = {{0, 1, -1, -1, 0, 1, -1}, {1, 2, -1, -1, 0, 1, -1}, {0, 20, 0, 1, 0, 1, -1},
             {1, 22, 0, 1, 33, 1, -1}, {2, 40, 2, -1, 0, 1, -1}};
@@ -225,6 +243,7 @@ public final class ToldTest {
         C.due("one(-1, 9)", x.one(-1, 9), CometKin.UNKNOWN);
         C.due("one(4, 7)", x.one(4, 7), CometKin.OUTSIDE);
         C.due("one(4, -1)", x.one(4, -1), CometKin.OUTSIDE);
+        C.holds(6, "1 he lives, 0 (5), to whom married (6; NONE). UNKNOWN; OUTSIDE.");
         x.go(2);
         x.wed(1, 0);
         C.due("one(0, 6)", x.one(0, 6), 1);
@@ -233,6 +252,7 @@ public final class ToldTest {
         C.due("one(0, 5)", x.one(0, 5), 0);
         C.due("one(0, 6)", x.one(0, 6), CometKin.NONE);
         C.due("one(1, 6)", x.one(1, 6), CometKin.NONE);
+        C.holds(5, "to: I has MOTHER M alone, in place of what was told");
         C.land(x, "to 3 2", 1);
         C.due("one(3, 2), told anew", x.one(3, 2), 2);
         C.due("one(3, 3), told anew", x.one(3, 3), CometKin.NONE);
@@ -241,6 +261,7 @@ public final class ToldTest {
     }
 
     private static void cometCancelled() {
+        C.holds(7, "it CANCELS the latest one ahead of it (by YEAR, of one YEAR by number; no ECLIPSED one)");
         // the year goes ahead of the number; an eclipsed one is never cancelled
         CometKin x = C.landed("seer 0;child 0", "comet 50;comet 30;cloud 40;eclipse 45;eclipse 46;spark 46");
         int[][] want = {{0, 50, 0, 3}, {0, 30, 0, 3}, {1, 40, 1, 0}, {3, 45, 0, 0}, {3, 46, 0, 0}, {2, 46, 0, 2}};
@@ -269,6 +290,7 @@ public final class ToldTest {
     }
 
     private static void cometSeen() {
+        C.holds(7, "A TRUE COMET is SEEN by all, a CLOUDED one by SEERS alone, a FALSE one by all but SEERS");
         CometKin x = C.landed("seer 90;child 90;widow 90;comet 1;cloud 2;spark 3;eclipse 0");
         C.due("a true one", x.comet(0, 3), 7);
         C.due("a clouded one", x.comet(1, 3), 1);
@@ -277,6 +299,7 @@ public final class ToldTest {
     }
 
     private static void as() {
+        C.holds(8, "One taken as a KIND (0 .. 3, as they are over one another): COMETS that he SEES, by bits.");
         CometKin x = C.landed("child 1;seer 1;widow 1;comet 1;cloud 2;spark 3;eclipse 0");
         int no = CometKin.NOT;
         int[][] want = {{5, 5, no, no}, {3, no, 3, no}, {5, 5, no, 5}};
@@ -294,6 +317,7 @@ public final class ToldTest {
     }
 
     private static void cometAs() {
+        C.holds(9, "A COMET taken as a KIND (0 .. 4): 1 a PLAIN one would SEE it, were it not CANCELLED");
         // the last one cancels the one ahead of it
         CometKin x = C.landed("comet 1;cloud 2;spark 3;eclipse 4");
         int no = CometKin.NOT;
@@ -310,6 +334,7 @@ public final class ToldTest {
     }
 
     private static void degreeAndKin() {
+        C.holds(10, "DEGREE of two in a YEAR; NONE: they are not KIN. UNKNOWN (one and himself: 0); OUTSIDE.");
         CometKin x = C.landed(FAMILY, "comet 20;comet 39;comet 40");
         C.due("ahead of the comet", x.degree(0, 2, 19), CometKin.NONE);
         C.due("in the year of birth and comet", x.degree(0, 2, 20), 1);
@@ -325,6 +350,7 @@ public final class ToldTest {
         C.due("no year", x.degree(0, 1, -1), CometKin.OUTSIDE);
         C.due("nobody", x.degree(0, 5, 100), CometKin.UNKNOWN);
         C.due("nobody", x.degree(-1, 0, 1), CometKin.UNKNOWN);
+        C.holds(11, "All others who are KIN to one in a YEAR, by bits. UNKNOWN; OUTSIDE.");
         C.due("kin(0, 19)", x.kin(0, 19), 0);
         C.due("kin(0, 20)", x.kin(0, 20), 6);
         C.due("kin(0, 39)", x.kin(0, 39), 14);
@@ -336,6 +362,7 @@ public final class ToldTest {
     }
 
     private static void kinThroughCloudsAndSparks() {
+        C.holds(11, "of children whose BIRTHS COUNT for these two then (through anybody)");
         // 1 and 3 are seers: a cloud counts for these two alone, a spark for two others
         CometKin x = C.landed(FAMILY, "cloud 50;spark 60;comet 70");
         C.due("kin(1, 50)", x.kin(1, 50), 8);

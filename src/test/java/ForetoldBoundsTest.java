@@ -436,6 +436,24 @@ public final class ForetoldBoundsTest {
             feasted(-1, 8, 5, 1) UNKNOWN
             feasted(8, 7, 5, 1) 1
             """);
+        // by the eighth 0 is TRUE or CLOUDED: with 1 TRUE or FALSE where 0 is CLOUDED these are five of nine
+        R.holds(27, "FEASTED, 8 at most", TWO_AND_TWO + """
+            land "comet 5;comet 6"
+            feasted(0, 1, 99, 1) 1
+            feasted(0, 1, 98, 1) 2
+            feasted(1, 0, 97, 1) 3
+            feasted(1, 0, 4, 0) 4
+            feasted(2, 3, 4, 0) 5
+            feasted(0, 2, 99, 0) 6
+            feasted(1, 3, 0, 0) 7
+            truths(0) 8
+            feasted(2, 3, 5, 1) 8
+            truths(0) 5
+            truth(0) 0
+            truth(1) 0
+            feasted(2, 3, 5, 0) FULL
+            truths(0) 5
+            """);
         // what is FEASTED may be of a YEAR yet to come, and of two who are KIN, or not, as told
         R.holds(27, "two were KIN in a YEAR (1), or not (0).", TWO_AND_TWO + """
             land "comet 5"

@@ -23,6 +23,7 @@ public final class DeedsBoundsTest {
         payByGoldAndLife();
         undo();
         undoOfEach();
+        undoAgainAndAgain();
         keep();
         back();
         backBehindOther();
@@ -671,6 +672,20 @@ public final class DeedsBoundsTest {
             undo() NOT
             count(10) 0
             """);
+    }
+
+    private static void undoAgainAndAgain() {
+        R.holds(19, "An object is used for at most 512 calls after it has been made", "go(1) 1\nundo() 0\n".repeat(256));
+        // 9 deeds, the last 8 of which are undone, again and again: the first of them stays, 2 YEARS each time
+        StringBuilder lines = new StringBuilder();
+        for (int round = 0; round < 28; round++) {
+            for (int deed = 1; deed <= 9; deed++) {
+                lines.append(String.format("go(%d) %d%n", deed % 2 + 1, 3 * deed / 2 + deed % 2 + round * 2));
+            }
+            lines.append("undo() 7\nundo() 6\nundo() 5\nundo() 4\nundo() 3\nundo() 2\nundo() 1\nundo() 0\n");
+            lines.append("count(2) ").append(2 * round + 2).append("\n");
+        }
+        R.holds(19, "the last 8 can be): how many can be undone yet.", lines.toString());
     }
 
     private static void keep() {

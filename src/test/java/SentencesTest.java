@@ -26,7 +26,7 @@ public final class SentencesTest {
         String document = Files.readString(Path.of("../shared/DOC.md"));
         List<Held> held = held();
         for (Held it : held) {
-            boolean told = section(document, "## Terms", "## Promise 1:").contains(it.sentence)
+            boolean told = section(document, "## What it is", "## Promise 1:").contains(it.sentence)
                 || section(document, "## Promise " + it.promise + ":", "\n## ").contains(it.sentence);
             yes(it.where + ": promise " + it.promise + " or the terms say \"" + it.sentence + "\"", told);
         }

@@ -26,6 +26,7 @@ public final class TextBoundsTest {
         landing();
         orderOfClauses();
         behindTheClauses();
+        clausesOfEachWord();
         R.end();
     }
 
@@ -617,6 +618,61 @@ public final class TextBoundsTest {
             keep(1) 0
             back(0) NOT
             back(1) 0
+            """);
+    }
+
+    private static void clausesOfEachWord() {
+        String three = "land \"child 0;child 0;child 0\"\n";
+        String[] clauses = {"land", "comet 1", "cloud 1", "spark 1", "eclipse 1", "child 1", "seer 1", "widow 1",
+            "of 2 1 0", "to 1 0", "gold 1 1", "law 1", "dark"};
+        StringBuilder lines = new StringBuilder();
+        for (String clause : clauses) {
+            int length = clause.length();
+            lines.append("----\n").append(three);
+            lines.append("fault \"").append(clause).append("\" NONE\n");
+            lines.append("fault \"").append(clause).append(".\" ").append(length).append("\n");
+            lines.append("fault \"").append(clause).append(" 1\" ").append(length + 1).append("\n");
+            int lastBlank = clause.lastIndexOf(' ');
+            if (lastBlank > 0) {
+                lines.append("fault \"").append(clause, 0, lastBlank).append("\" ").append(lastBlank).append("\n");
+                lines.append("fault \"").append(clause, 0, lastBlank).append(";dark\" ").append(lastBlank).append("\n");
+            }
+        }
+        R.holds(4, "to I M. gold I G. law D. dark. (As written here, without points;", lines.toString());
+        R.holds(4, "each is one of: land. comet Y. cloud Y. spark Y. eclipse Y. child Y. seer Y. widow Y. of I M F.", """
+            fault "lan" 0
+            fault "lands" 0
+            fault "comets 1" 0
+            fault "star 1" 0
+            fault "kin 1" 0
+            fault "a" 0
+            fault "1" 0
+            fault "landdark" 0
+            fault "dark dark" 5
+            """);
+        R.holds(5, "comet: a TRUE one more, cloud: CLOUDED, spark: FALSE, eclipse: ECLIPSED, in YEAR Y", """
+            land "comet 4;cloud 3;spark 2;eclipse 1"
+            count(1) 4
+            comet(0, 0) 0
+            comet(1, 0) 1
+            comet(2, 0) 2
+            comet(3, 0) 3
+            comet(0, 1) 4
+            comet(1, 1) 3
+            comet(2, 1) 2
+            comet(3, 1) 1
+            """);
+        R.holds(5, "child: one of PEOPLE more, PLAIN, seer, widow, born in Y, without parents", """
+            land "child 4;seer 3;widow 2"
+            count(0) 3
+            one(0, 0) 0
+            one(1, 0) 1
+            one(2, 0) 2
+            one(0, 1) 4
+            one(1, 1) 3
+            one(2, 1) 2
+            one(2, 2) NONE
+            one(2, 3) NONE
             """);
     }
 }

@@ -423,6 +423,17 @@ public final class ToldBoundsTest {
             kin(0, 5) 2
             """);
         // who died is KIN yet, and others are through him
+        R.holds(10, "Two are KIN in a YEAR, if one comes from one to the other by steps, each from a child to a parent, or back", """
+            land "child 0;child 0;child 1;child 2;to 2 0;of 3 2 1;comet 3"
+            degree(3, 0, 3) 2
+            degree(0, 3, 3) 2
+            degree(0, 1, 3) 3
+            degree(1, 2, 3) 2
+            kin(1, 3) 13
+            land "to 3 2"
+            kin(1, 3) 0
+            degree(1, 3, 3) NONE
+            """);
         R.holds(10, "(through anybody)", """
             land "child 0;child 0;child 0;to 1 0;to 2 1;comet 0"
             die(1) 2
